@@ -243,7 +243,7 @@ public final class GoingOver {
 
     private int act(int deed, int on) {
         trial.copy(course);
-        int why = trial.whyNot(falls, deed, on);
+        int why = trial.attempt(falls, deed, on);
         if (why == 0) {
             past.push(course);
             course.copy(trial);
@@ -1131,7 +1131,7 @@ public final class GoingOver {
         int weight(Falls falls, int p) {
             int sum = 0;
             for (int i = 0; i < falls.items; i++) {
-                if (falls.owner[i] == p && hasInside(i)) {
+                if (falls.owner[i] == p && (inside >> i & 1) != 0) {
                     sum += falls.weight[i];
                 }
             }
@@ -1149,7 +1149,7 @@ public final class GoingOver {
         }
 
         /** Does the deed if it can be done: 0, or why not, as the document numbers it. */
-        int whyNot(Falls falls, int deed, int on) {
+        int attempt(Falls falls, int deed, int on) {
             switch (deed) {
                 case W_GOES:
                     return letGo(falls, on);
@@ -1624,7 +1624,7 @@ public final class GoingOver {
             if (word == W_BIND && !falls.hasJoin(object)) {
                 return 49;
             }
-            int reason = course.whyNot(falls, word, object);
+            int reason = course.attempt(falls, word, object);
             return reason == 0 ? 0 : (word - W_GOES) * 10 + reason;
         }
 

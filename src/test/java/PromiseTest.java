@@ -247,6 +247,17 @@ public final class PromiseTest {
         due("ITEMS", x.count(1), 10);
         due("JOINS", x.count(2), 16);
         due("WEIGHT", x.person(0, 2), 200);
+        due("PARTS, if he dropped", x.fate(0), 1);
+        due("who()", who(x, 200), 1);
+        due("heights()", heights(x, 0, 1, 1, 0, 2, 0, 3, 0, 4, 0), 30);
+        due("watch()", x.watch(), 0);
+        due("198 with the rain of DAY 0", x.lighten(0), 1);
+        due("keep(0)", x.keep(0), 180);
+        due("the heaviest of all", x.heaviest(), 0);
+        due("days(60)", x.days(60), 60);
+        due("go(4)", x.go(4), 0);
+        due("said(NONE)", sentence(x, "pooled or weight=200"), 2);
+        due("said(1)", x.said(1), 4);
         fallsFault(s + "person q 1;", 4, s.length());
         fallsFault(s + " item q 1;", 4, s.length() + 1);
         fallsFault(s + "join", 4, s.length());
@@ -287,6 +298,7 @@ public final class PromiseTest {
         fallsFault("rain 9 0;", 2, 7);
         fallsFault("rain 9 100;", 2, 7);
         fallsFault("rain 9 99;rain", 3, 10);
+        fallsFault("rain 1 9;rain 1 9;", 3, 9);
         fallsFault("person a 10;", 2, 9);
         fallsFault("person 1 1;", 1, 7);
         fallsFault("person abcdefgh 1;", 1, 7);
@@ -428,6 +440,10 @@ public final class PromiseTest {
         x.days(2);
         int[] third = {3, 25, 0, 0, 1, 2, 6, 2};
         for (int k = 0; k < 8; k++) due("now(" + k + ") at last", x.now(k), third[k]);
+        GoingOver y = of("falls 2 30;rain 1 9;");
+        due("rain each DAY", y.now(1), 39);
+        y.days(1);
+        due("rain each DAY", y.now(1), 39);
     }
 
     private static void go() {
@@ -914,6 +930,9 @@ public final class PromiseTest {
         due("HIGH 12", x.lowest(), 12);
         x.falls();
         due("it stays", x.lowest(), 12);
+        GoingOver y = of("person a 0;item i a 7;item k a 7;join i k 29;");
+        due("in 2", heights(y, 0, 2), 1);
+        due("HIGH 30", y.lowest(), 30);
     }
 
     private static void watch() {
@@ -934,6 +953,20 @@ public final class PromiseTest {
         due("b is POOLED: c leaves 15", x.watch(), 2);
         x.falls();
         due("it stays", x.watch(), 2);
+        GoingOver y = of("person a 0;person b 0;item i b 1;item k b 1;join i k 7;");
+        due("any", heights(y, 0, 0), 30);
+        due("a is in 0 by all, b leaves 23", y.watch(), 1);
+        GoingOver z = of("person a 0;person b 0;item i b 1;item k b 1;join i k 1;");
+        due("any", heights(z, 0, 0), 30);
+        due("b leaves 29, HIGH 1 being apart", z.watch(), 1);
+        StringBuilder ten = new StringBuilder("person a 0;person b 0;");
+        for (char c = 'c'; c < 'm'; c++) ten.append("item ").append(c).append(" b 1;");
+        GoingOver v = of(ten.toString());
+        due("any", heights(v, 0, 0), 30);
+        due("b is in 10 by all: the first", v.watch(), 0);
+        GoingOver u = of(ten + "join c d 3;");
+        due("any", heights(u, 0, 0), 30);
+        due("b is in 9 by three, in 10 by 27", u.watch(), 1);
     }
 
     private static void heaviest() {
@@ -1072,11 +1105,22 @@ public final class PromiseTest {
         GoingOver y = of("person a 0;");
         due("no ITEMS: no draw of them", y.drawn(2, seedFor(8, 9, 4, 0, 8, 0, 4, 1)), 2);
         due("POOLED", y.now(4), 1);
+        y.undo();
+        due("no JOINS: no draw of them", y.drawn(2, seedFor(8, 9, 4, 1, 8, 0, 4, 9)), 2);
+        due("POOLED", y.now(4), 1);
         for (int k = 0; k < 6; k++) y.days(60);
         due("38 are left", y.drawn(60, 7), 38);
         due("none is left", y.drawn(1, 7), 0);
         y.undo();
         due("DAY 362", y.now(0), 362);
+        GoingOver one = of("person a 0;item i a 7;");
+        one.drawn(1, seedFor(8, 9, 4, 0));
+        due("the only ITEM", one.item(0, 2), 0);
+        GoingOver two = of("person a 0;item i a 7;item k a 7;join i k 1;");
+        two.unload(0);
+        two.load(0);
+        two.drawn(1, seedFor(8, 9, 4, 1));
+        due("the only JOIN", two.join(0, 3), 1);
         GoingOver z = of("falls 5 5;rain 2 3;person a 0;item i a 7;");
         z.days(1);
         z.drawn(1, seedFor(8, 0, 4, 9));
@@ -1098,6 +1142,14 @@ public final class PromiseTest {
             }
             due("odds(" + p + ", 30, ..) by drawn()", x.odds(p, 30, Integer.MAX_VALUE - 4), sum);
             due("some, not all", sum > 0 && sum < 30, true);
+        }
+        GoingOver w = of("person a 0;item i a 1;");
+        for (int seed = 0; seed < 300; seed++) {
+            w.image(0);
+            w.drawn(20, seed);
+            boolean whole = w.person(0, 1) >= 2 && w.person(0, 3) == 1;
+            w.restore(0);
+            due("odds(0, 1, " + seed + ")", w.odds(0, 1, seed), whole ? 1 : 0);
         }
         due("all stays", x.now(0) + x.now(6) + x.now(4) + x.now(5), 0);
         due("nothing can be undone", x.undo(), NONE);
@@ -1129,6 +1181,12 @@ public final class PromiseTest {
         due("judged: WRONG in the second", book(x, 0, "bob frees;bob frees;"), 1);
         due("POOLED still", x.person(1, 1), 2);
         due("undo()", x.undo(), 1);
+        due("one LINE alone", book(x, 1, "day 1;day 60;day 60;day 60;day 60;day 60;day 60;"), 6);
+        due("undo()", x.undo(), 1);
+        due("one LINE that is lived", book(x, 1, "day 1;ann goes;"), 1);
+        due("the DAY", x.now(0), 61);
+        due("undo()", x.undo(), 1);
+        due("the DAY", x.now(0), 60);
         StringBuilder forty = new StringBuilder();
         for (int k = 0; k < 40; k++) forty.append("day 1;");
         due("forty", book(x, 0, forty.toString()), NONE);
@@ -1198,8 +1256,8 @@ public final class PromiseTest {
         toldIs(x, 43, 1, 0, 2);
         book(x, 0, "bind 3;");
         toldIs(x, 49, 0, 0, 0);
-        book(x, 0, "bind 15;");
-        toldIs(x, 49, 0, 0, 0);
+        due("bind 15", book(x, 0, "day 1;bind 15;"), 1);
+        toldIs(x, 49, 1, 1, 0);
         book(x, 1, "day 60;day 60;day 60;day 60;day 60;day 60;day 39;");
         toldIs(x, 0, 7, 399, 0);
         due("fewer are left", book(x, 1, "day 2;"), 0);
@@ -1296,6 +1354,10 @@ public final class PromiseTest {
         saidOf(x, "not number = 0 and whole", 1, 2, 3);
         saidOf(x, "not (number = 0 or whole)");
         saidOf(x, "not not number = 3", 3);
+        saidOf(x, "has l and (number = 0 or number = 2)", 2);
+        saidOf(x, "number = 0 and (has l or ready)", 0);
+        saidOf(x, "number = 1 and (ready)", 1);
+        saidOf(x, "number = 1 and not (has m)", 1);
         saidOf(x, "number=0 or number=1 or not number<3", 0, 1, 3);
         x.days(1);
         x.go(2);
