@@ -1,106 +1,6 @@
-import java.nio.charset.StandardCharsets;
-import java.util.NoSuchElementException;
-
 /** Each promise of the document by answers worked out by hand: ordinary inputs, edges, wrong inputs. */
-public final class PromiseTest {
-    private static final int NONE = GoingOver.NONE;
-    private static int wrong = 0;
+public final class PromiseTest extends Checks {
     private static int promise = 0;
-
-    /** Two PERSONS; ann weighs 21 and needs a STRAW of 3, bob weighs 13 and needs 4. */
-    private static final String TWO = "falls 8 20;rain 3 5;person ann 2;person bob 0;item hat ann 5;item box ann 7;"
-        + "item cup ann 9;item oak bob 12;item pin bob 1;join hat box 9;join box cup 5;join oak pin 4;";
-    /** One who weighs 10 and hangs on days without rain: a flow of 5, and 6 more each fourth day. */
-    private static final String HANGS = "falls 10 5;rain 4 6;person p 1;item a p 4;item b p 3;item c p 3;join a b 9;"
-        + "join b c 8;";
-
-    private static void due(String what, long got, long want) {
-        if (got != want) {
-            wrong++;
-            System.out.println("promise " + promise + ": " + what + " answered " + got + ", due is " + want);
-        }
-    }
-
-    private static void due(String what, boolean got, boolean want) {
-        due(what, got ? 1 : 0, want ? 1 : 0);
-    }
-
-    private interface Call {
-        int answer();
-    }
-
-    private static void dueThrow(String what, Call call) {
-        try {
-            int got = call.answer();
-            wrong++;
-            System.out.println("promise " + promise + ": " + what + " answered " + got + ", due is a NoSuchElementException");
-        } catch (NoSuchElementException e) {
-            if (e.getClass() != NoSuchElementException.class) {
-                wrong++;
-                System.out.println("promise " + promise + ": " + what + " threw " + e.getClass());
-            }
-        }
-    }
-
-    private static void type(GoingOver x, byte... bytes) {
-        x.end(0);
-        for (int k = 0; k < bytes.length; k += 20) {
-            int[] n = new int[5];
-            for (int b = 0; b < 20; b++) n[b / 4] = n[b / 4] << 8 | (k + b < bytes.length ? bytes[k + b] & 255 : 'z');
-            x.feed(n[0], n[1], n[2], n[3], n[4]);
-        }
-        x.end(bytes.length);
-    }
-
-    private static void type(GoingOver x, String text) {
-        type(x, text.getBytes(StandardCharsets.ISO_8859_1));
-    }
-
-    private static GoingOver of(String falls) {
-        GoingOver x = new GoingOver();
-        type(x, falls);
-        int lines = 0;
-        for (int k = 0; k < falls.length(); k++) if (falls.charAt(k) == ';') lines++;
-        due("falls() of " + falls, x.falls(), lines);
-        return x;
-    }
-
-    private static int book(GoingOver x, int lives, String text) {
-        type(x, text);
-        return x.book(lives);
-    }
-
-    private static int sentence(GoingOver x, String text) {
-        type(x, text);
-        return x.sentence();
-    }
-
-    /** A FAULT of that kind at that place, the FALLS staying. */
-    private static void fallsFault(String text, int kind, int place) {
-        GoingOver x = of("falls 3 4;");
-        type(x, text);
-        due("falls() of '" + text + "'", x.falls(), -1 - place);
-        due("fault() of '" + text + "'", x.fault(), kind);
-        due("HIGH behind '" + text + "'", x.count(3), 3);
-        due("the tape behind '" + text + "'", x.count(5), 0);
-    }
-
-    private static void bookFault(String text, int kind, int place) {
-        GoingOver x = of(TWO);
-        due("book(1) of '" + text + "'", book(x, 1, text), -2 - place);
-        due("fault() of '" + text + "'", x.fault(), kind);
-        due("told(0) behind '" + text + "'", x.told(0), NONE);
-        due("undo() behind '" + text + "'", x.undo(), NONE);
-    }
-
-    private static void sentenceFault(String text, int kind, int place) {
-        GoingOver x = of(TWO);
-        due("sentence() ahead", sentence(x, "number = 1"), 1);
-        due("sentence() of '" + text + "'", sentence(x, text), -1 - place);
-        due("fault() of '" + text + "'", x.fault(), kind);
-        due("said(0) behind '" + text + "'", x.said(0), 1);
-        due("said(NONE) behind '" + text + "'", x.said(NONE), 1);
-    }
 
     public static void main(String[] args) {
         Runnable[] tests = {PromiseTest::newObject, PromiseTest::feed, PromiseTest::end, PromiseTest::falls,
@@ -114,11 +14,11 @@ public final class PromiseTest {
             PromiseTest::image, PromiseTest::restore, PromiseTest::count};
         for (Runnable test : tests) {
             promise++;
+            at = "promise " + promise;
             test.run();
         }
         due("how many promises were tested", promise, 42);
-        if (wrong > 0) System.exit(1);
-        System.out.println("42 promises are as due");
+        ends("42 promises are as due");
     }
 
     private static void newObject() {
@@ -181,10 +81,6 @@ public final class PromiseTest {
         due("end(4)", x.end(4), false);
         due("end(0)", x.end(0), true);
         due("the tape", x.count(5), 0);
-    }
-
-    private static String padded(String text, int length) {
-        return text + " ".repeat(length - text.length());
     }
 
     private static void falls() {
@@ -847,15 +743,6 @@ public final class PromiseTest {
         due("never", u.drops(0), NONE);
     }
 
-    private static int who(GoingOver x, int... weights) {
-        byte[] bytes = new byte[weights.length];
-        for (int k = 0; k < bytes.length; k++) bytes[k] = (byte) weights[k];
-        type(x, bytes);
-        int answer = x.who();
-        due("the tape behind who()", x.count(5), 0);
-        return answer;
-    }
-
     private static void who() {
         GoingOver x = of(TWO);
         due("12, 9", who(x, 12, 9), 1);
@@ -878,15 +765,6 @@ public final class PromiseTest {
         for (char c = 'b'; c < 'l'; c++) s.append("item ").append(c).append(" a 20;");
         for (char c = 'c'; c < 'l'; c++) s.append("join b ").append(c).append(" 9;");
         due("200", who(of(s.toString()), 200), 1);
-    }
-
-    private static int heights(GoingOver x, int... pairs) {
-        byte[] bytes = new byte[pairs.length];
-        for (int k = 0; k < bytes.length; k++) bytes[k] = (byte) pairs[k];
-        type(x, bytes);
-        int answer = x.heights();
-        due("the tape behind heights()", x.count(5), 0);
-        return answer;
     }
 
     private static void heights() {
@@ -1000,17 +878,6 @@ public final class PromiseTest {
         GoingOver y = of("person a 0;item i a 5;item k a 5;item l a 2;item m a 2;");
         due("14 by 4", y.mean(0, 0), 7);
         due("14 by 4", y.mean(0, 1), 2);
-    }
-
-    private static void tagIs(GoingOver x, int p, String text) {
-        due("tag(" + p + ")", x.tag(p), text.length());
-        StringBuilder got = new StringBuilder();
-        for (int k = 0; k < text.length(); k++) got.append((char) x.byteAt(k));
-        if (!got.toString().equals(text)) {
-            wrong++;
-            System.out.println("promise " + promise + ": the TAG is '" + got + "', due is '" + text + "'");
-        }
-        due("the byte behind it", x.byteAt(text.length()), NONE);
     }
 
     private static void tag() {
@@ -1143,8 +1010,8 @@ public final class PromiseTest {
             due("odds(" + p + ", 30, ..) by drawn()", x.odds(p, 30, Integer.MAX_VALUE - 4), sum);
             due("some, not all", sum > 0 && sum < 30, true);
         }
-        GoingOver w = of("person a 0;item i a 1;");
         for (int seed = 0; seed < 300; seed++) {
+            GoingOver w = of("person a 0;item i a 1;");
             w.image(0);
             w.drawn(20, seed);
             boolean whole = w.person(0, 1) >= 2 && w.person(0, 3) == 1;
@@ -1216,13 +1083,6 @@ public final class PromiseTest {
         bookFault("day 61;", 2, 4);
         bookFault("day;", 1, 3);
         bookFault("ready;", 1, 0);
-    }
-
-    private static void toldIs(GoingOver x, int why, int lines, int day, int broken) {
-        due("told(0)", x.told(0), why);
-        due("told(1)", x.told(1), lines);
-        due("told(2)", x.told(2), day);
-        due("told(3)", x.told(3), broken);
     }
 
     private static void told() {

@@ -1,72 +1,87 @@
 import java.lang.management.ManagementFactory;
-import java.nio.charset.StandardCharsets;
 
-/** All calls of a run live in one room: what is made is made by the constructor, and the dearest calls make nothing. */
-public final class RoomTest {
-    private static final int ROUNDS = 2000;
+/**
+ * All calls of a run live in one room of some 600,000 objects and arrays and 7.3 million fields and elements. A field
+ * or element takes a byte at least and an object sixteen, so what takes fewer than 7.3 million bytes has room.
+ */
+public final class RoomTest extends Checks {
+    private static final long ROOM = 7_300_000L;
+    /** Half of what an object is used for at most, as some of them take a feed() and more. */
+    private static final int CALLS = 256;
 
-    private static void type(GoingOver x, int[] words) {
-        for (int k = 0; k < words.length; k += 5)
-            x.feed(words[k], words[k + 1], words[k + 2], words[k + 3], words[k + 4]);
+    private interface Run {
+        int of(GoingOver x, int k);
     }
 
-    private static int[] packed(String text) {
-        byte[] bytes = text.getBytes(StandardCharsets.ISO_8859_1);
-        int[] words = new int[(bytes.length + 19) / 20 * 5];
-        for (int b = 0; b < words.length * 4; b++)
-            words[b / 4] = words[b / 4] << 8 | (b < bytes.length ? bytes[b] : ' ');
-        return words;
-    }
-
-    private static int all(GoingOver x, int[] falls, int[] book, int[] sentence, int[] pairs) {
-        int sum = 0;
-        type(x, falls);
-        sum += x.falls();
-        type(x, book);
-        sum += x.book(1);
-        type(x, sentence);
-        sum += x.sentence() + x.said(-1) + x.said(0);
-        type(x, pairs);
-        x.end(4);
-        sum += x.heights() + x.lowest() + x.watch();
-        type(x, pairs);
-        x.end(3);
-        sum += x.who();
-        for (int p = 0; p < 5; p++) {
-            sum += x.person(p, 3) + x.fate(p) + x.straw(p) + x.lighten(p) + x.keep(p) + x.crack(p) + x.drops(p) + x.tag(p);
-            sum += x.odds(p, 30, p) + x.go(p) + x.free(p);
-        }
-        for (int i = 0; i < 10; i++) sum += x.item(i, 4) + x.unload(i) + x.load(i) + x.apart(i, 9 - i);
-        for (int j = 0; j < 16; j++) sum += x.join(j, 3) + x.bind(j);
-        sum += x.image(0) ? 1 : 0;
-        sum += x.drawn(60, 7) + x.days(60) + x.undo() + x.heaviest() + x.now(1) + x.told(1) + x.count(0);
-        sum += x.restore(0) ? 1 : 0;
-        return sum;
-    }
-
-    public static void main(String[] args) {
+    private static String dear() {
         StringBuilder s = new StringBuilder("falls 9 60;rain 3 9;");
         for (char c = 'a'; c < 'f'; c++) s.append("person p").append(c).append(" 1;");
         for (char c = 'a'; c < 'k'; c++) s.append("item ").append(c).append(" pa 7;");
         for (char c = 'b'; c < 'k'; c++) s.append("join a ").append(c).append(" 9;");
         for (char c = 'c'; c < 'j'; c++) s.append("join ").append(c).append(" b 8;");
-        int[] falls = packed(s.toString());
-        int[] book = packed("pb goes;pb frees;unload a;load a;bind 0;day 3;");
-        int[] sentence = packed("not (ready or weight < 9) and has b or parts > 1");
-        int[] pairs = {0x00010101, 0, 0, 0, 0};
+        return s.toString();
+    }
+
+    private static int someOf(GoingOver x, int k) {
+        int p = k % 5;
+        switch (k / 5 % 22) {
+            case 0: return x.go(p);
+            case 1: return x.free(p);
+            case 2: return x.unload(p);
+            case 3: return x.load(p);
+            case 4: return x.bind(p);
+            case 5: return x.days(p);
+            case 6: return x.undo();
+            case 7: return x.fate(p);
+            case 8: return x.straw(p);
+            case 9: return x.lighten(p);
+            case 10: return x.keep(p);
+            case 11: return x.apart(p, p + 1);
+            case 12: return x.crack(p) + x.drops(p);
+            case 13: return x.heaviest();
+            case 14: return x.tag(p);
+            case 15: return x.drawn(60, k);
+            case 16: return x.said(p);
+            case 17: return x.image(p % 2) ? 1 : 0;
+            case 18: return x.restore(p % 2) ? 1 : 0;
+            case 19: return x.person(p, p);
+            case 20: return x.item(p, 4);
+            default: return x.now(p);
+        }
+    }
+
+    private static final String[] NAMES = {"odds", "drawn", "keep", "lighten", "falls", "book", "sentence", "heights",
+        "who", "some of each"};
+    private static final Run[] RUNS = {
+        (x, k) -> x.odds(0, 30, k),
+        (x, k) -> x.drawn(60, k) > 0 ? 0 : x.undo(),
+        (x, k) -> x.keep(0),
+        (x, k) -> x.lighten(0),
+        (x, k) -> k % 40 == 0 ? falls(x, dear()) : 0,
+        (x, k) -> k % 20 == 0 ? book(x, 1, "load a;".repeat(2) + "day 1;".repeat(38)) + x.undo() : 0,
+        (x, k) -> k % 14 == 0 ? sentence(x, "ready" + " or ready".repeat(19)) : x.said(k % 5),
+        (x, k) -> k % 4 == 0 ? heights(x, 0, 1) : 0,
+        (x, k) -> k % 4 == 0 ? who(x, 70) : 0,
+        RoomTest::someOf,
+    };
+
+    private static void runOf(int r) {
+        GoingOver x = new GoingOver();
+        int sum = falls(x, dear());
+        for (int k = 0; k < CALLS; k++) sum += RUNS[r].of(x, k);
+        due("the sum of " + NAMES[r], sum == Integer.MIN_VALUE, false);
+    }
+
+    public static void main(String[] args) {
+        at = "room";
         com.sun.management.ThreadMXBean bean = (com.sun.management.ThreadMXBean) ManagementFactory.getThreadMXBean();
         long self = Thread.currentThread().getId();
-        GoingOver x = new GoingOver();
-        int sum = all(x, falls, book, sentence, pairs);
-        bean.getThreadAllocatedBytes(self);
-        long before = bean.getThreadAllocatedBytes(self);
-        for (int k = 0; k < ROUNDS; k++) sum += all(x, falls, book, sentence, pairs);
-        long made = bean.getThreadAllocatedBytes(self) - before;
-        // Some bytes a round are left for what the machine itself may make.
-        if (made > ROUNDS * 64L) {
-            System.out.println(ROUNDS + " rounds made " + made + " bytes");
-            System.exit(1);
+        for (int r = 0; r < RUNS.length; r++) {
+            long before = bean.getThreadAllocatedBytes(self);
+            runOf(r);
+            long made = bean.getThreadAllocatedBytes(self) - before;
+            if (2 * made >= ROOM) due("the bytes that a run of " + NAMES[r] + " makes", 2 * made, ROOM - 1);
         }
-        System.out.println("the calls make nothing (" + made + " bytes in " + ROUNDS + " rounds, sum " + sum + ")");
+        ends("the calls of a run have room");
     }
 }
