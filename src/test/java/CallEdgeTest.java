@@ -950,6 +950,13 @@ public final class CallEdgeTest extends Checks {
         y.go(0);
         due("a is POOLED", heights(y, 0, 1), 30);
         due("b and c leave 15: b", y.watch(), 1);
+        y.free(0);
+        due("b in 1", heights(y, 1, 1), 15);
+        due("all leave 15: a, who is OUT, is the first", y.watch(), 0);
+        GoingOver h = of("person a 0;person b 0;person c 0;item i a 1;item k a 1;item l a 1;item m a 1;item n b 1;item o b 1;item p b 1;"
+            + "join i k 12;join k l 18;join l m 24;join n o 11;join o p 22;");
+        due("any", heights(h, 2, 0), 30);
+        due("a leaves 12, 6, 6 or 6, b leaves 11, 11 or 8: the greatest counts", h.watch(), 1);
         GoingOver z = of("person a 0;person b 0;item i a 1;item k a 1;item l a 1;item m b 1;item n b 1;join i k 10;join k l 20;join m n 14;");
         due("b in whatever it is", heights(z, 0, 3), 10);
         due("all leave 10", z.watch(), 0);
@@ -1127,6 +1134,14 @@ public final class CallEdgeTest extends Checks {
         due("and who is POOLED is so", last.odds(0, 30, 1), 30);
         last.free(0);
         due("or OUT", last.odds(0, 30, 1), 30);
+        StringBuilder star = new StringBuilder("falls 9 1;person a 0;");
+        for (char c = 'b'; c < 'l'; c++) star.append("item ").append(c).append(" a 20;");
+        for (char c = 'c'; c < 'l'; c++) star.append("join b ").append(c).append(" 9;");
+        GoingOver hangs = of(star.toString());
+        hangs.go(0);
+        due("who hangs in one PART is not down", hangs.odds(0, 30, 1), 0);
+        due("he hangs", hangs.now(3), 1);
+        due("in one PART", hangs.person(0, 3), 1);
         GoingOver none = of("person a 0;");
         none.go(0);
         due("nothing is not whole", none.odds(0, 30, 1), 0);
@@ -1262,6 +1277,13 @@ public final class CallEdgeTest extends Checks {
         due("it stays", x.said(1), 4);
         due("a FAULT", sentence(x, ""), -1);
         due("it stays", x.said(NONE), 2);
+        GoingOver now = of("falls 9 9;person a 0;person b 0;item i a 1;item k a 1;item l b 1;item m b 1;join i k 8;");
+        saidOf(now, "whole", 0);
+        saidOf(now, "parts=1", 0);
+        saidOf(now, "parts=2 and not whole", 1);
+        now.go(0);
+        saidOf(now, "whole");
+        saidOf(now, "parts=2", 0, 1);
         GoingOver none = new GoingOver();
         due("said of none", sentence(none, "ready"), 1);
         due("how many", none.said(NONE), 0);
