@@ -714,6 +714,10 @@ public final class CallEdgeTest extends Checks {
             due("KEEP by " + flow, x.keep(0), due[0]);
             due("which by " + flow, x.keeps(), due[1]);
         }
+        due("an ITEM of 1 by a FLOW of 1", of("falls 9 1;person a 0;item i a 1;").keep(0), 1);
+        GoingOver less = of("falls 9 1;person a 0;item i a 2;item k a 1;item l a 1;join k l 9;");
+        due("one of two", less.keep(0), 1);
+        due("the least as bits", less.keeps(), 2);
         GoingOver y = of("falls 9 10;person a 0;item i a 5;item k a 5;item l a 5;join k l 9;join i l 9;");
         due("two of 10: i and l before k and l", y.keep(0), 10);
         due("the least as bits", y.keeps(), 5);

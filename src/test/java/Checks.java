@@ -110,8 +110,19 @@ class Checks {
         return text + " ".repeat(length - text.length());
     }
 
-    /** A FAULT of that kind at that place, the FALLS staying. */
+    /** What may stand behind a FAULT without being told: it is the first along the text that is. */
+    private static final String[] TAILS = {"", " X", " ;", " 5;", " ready", " goes;", " p", " ann goes; cat goes;"};
+
+    private static boolean bears(String text, int place, String tail) {
+        return tail.isEmpty() || place < text.length() && text.length() + tail.length() <= 940;
+    }
+
+    /** A FAULT of that kind at that place, whatever stands behind it, the FALLS staying. */
     static void fallsFault(String text, int kind, int place) {
+        for (String tail : TAILS) if (bears(text, place, tail)) fallsFaultOf(text + tail, kind, place);
+    }
+
+    private static void fallsFaultOf(String text, int kind, int place) {
         GoingOver x = of("falls 3 4;");
         due("falls() of '" + text + "'", falls(x, text), -1 - place);
         due("fault() of '" + text + "'", x.fault(), kind);
@@ -122,6 +133,10 @@ class Checks {
     }
 
     static void bookFault(String text, int kind, int place) {
+        for (String tail : TAILS) if (bears(text, place, tail)) bookFaultOf(text + tail, kind, place);
+    }
+
+    private static void bookFaultOf(String text, int kind, int place) {
         GoingOver x = of(TWO);
         due("book(1) of '" + text + "'", book(x, 1, text), -2 - place);
         due("fault() of '" + text + "'", x.fault(), kind);
@@ -131,6 +146,10 @@ class Checks {
     }
 
     static void sentenceFault(String text, int kind, int place) {
+        for (String tail : TAILS) if (bears(text, place, tail)) sentenceFaultOf(text + tail, kind, place);
+    }
+
+    private static void sentenceFaultOf(String text, int kind, int place) {
         GoingOver x = of(TWO);
         due("sentence() ahead", sentence(x, "number = 1"), 1);
         due("sentence() of '" + text + "'", sentence(x, text), -1 - place);

@@ -478,6 +478,11 @@ public final class TextEdgeTest extends Checks {
             sentenceFault(of + "<hat", 1, n + 1);
             sentenceFault(of + ";5", 1, n);
             sentenceFault(of + "(5", 1, n);
+            sentenceFault(of + " and ready", 1, n + 1);
+            sentenceFault(of + " or ready", 1, n + 1);
+            sentenceFault(of + "< and ready", 1, n + 2);
+            sentenceFault("(" + of + ") and ready", 1, n + 1);
+            sentenceFault("(" + of + "<1000) and ready", 1, n + 2);
         }
         for (String word : KEYWORDS) {
             boolean first = java.util.List.of(KEYWORDS).indexOf(word) >= 13;
@@ -487,6 +492,11 @@ public final class TextEdgeTest extends Checks {
         }
         sentenceFault("has cat", 3, 4);
         sentenceFault("has bob", 3, 4);
+        sentenceFault("has cat and ready", 3, 4);
+        sentenceFault("has and ready", 1, 4);
+        sentenceFault("not and ready", 1, 4);
+        sentenceFault("() and ready", 1, 1);
+        sentenceFault("(ready; and ready", 1, 6);
         sentenceFault("has 0", 1, 4);
         sentenceFault("has", 1, 3);
         sentenceFault("ann", 1, 0);
